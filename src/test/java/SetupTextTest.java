@@ -262,7 +262,7 @@ public final class SetupTextTest {
                 + "case c filed 0 slots 1 limit 9;case d filed 0 slots 1 limit 9;conflict a b;conflict c b;"
                 + "bar o a;bar p a;bar o b;holiday 8;holiday 6;cap 33;");
         court.plan(1, 0, 0, 0, 1);
-        court.plan(2, 7, 0, 0, 1 + 1);
+        court.plan(2, 7, 0, 0, 2);
         court.pass(3);
         court.addBar(2, 3);
         court.addHoliday(9);
