@@ -1692,17 +1692,17 @@ public final class CourtCalendar {
         // Above the rank of any case.
         private static final int NO_RANK = (MOST_OFFICERS + 2) * MOST_CASES;
 
-        private final int[] permitted = new int[MOST_CASES];
         private final int[] conflicts = new int[MOST_CASES];
-        private final int[] given = new int[MOST_CASES];
-        private final int[] alike = new int[MOST_OFFICERS];
+        private final int[] permittedCases = new int[MOST_OFFICERS];
+        // Row after row, the officers left for each case when so many cases have one.
+        private final int[] choices = new int[(MOST_CASES + 1) * MOST_CASES];
         private int cases;
         private int officers;
 
         int countFewest(State state) {
             prepare(state);
             for (int most = 0; most <= officers; most++) {
-                if (gives(0, 0, most)) {
+                if (gives(0, allOf(cases), 0, most)) {
                     return most;
                 }
             }
@@ -1712,71 +1712,72 @@ public final class CourtCalendar {
         private void prepare(State state) {
             cases = state.setup.size(CASE);
             officers = state.setup.size(OFFICER);
+            Arrays.fill(permittedCases, 0);
             for (int number = 0; number < cases; number++) {
-                permitted[number] = allOf(officers) & ~state.bars[number];
                 conflicts[number] = state.setup.matters[number].conflicts;
-                given[number] = 0;
-            }
-            for (int officer = 0; officer < officers; officer++) {
-                alike[officer] = smallerAlike(officer);
-            }
-        }
-
-        /** The smaller officers with the same bars: while one of them is unused, this one need not be tried. */
-        private int smallerAlike(int officer) {
-            int found = 0;
-            for (int smaller = 0; smaller < officer; smaller++) {
-                boolean same = true;
-                for (int number = 0; number < cases; number++) {
-                    same &= has(permitted[number], smaller) == has(permitted[number], officer);
+                choices[number] = allOf(officers) & ~state.bars[number];
+                for (int officer = 0; officer < officers; officer++) {
+                    permittedCases[officer] |= has(choices[number], officer) ? 1 << number : 0;
                 }
-                found |= same ? 1 << smaller : 0;
             }
-            return found;
         }
 
         /** Tells whether the cases left can be given to officers, of whom at most so many are used in all. */
-        private boolean gives(int done, int used, int most) {
-            if (done >= cases) {
+        private boolean gives(int done, int left, int used, int most) {
+            if (left == 0) {
                 return true;
             }
-            int number = hardest(used, most);
-            int choices = choicesFor(number, used, most);
+            if (done >= MOST_CASES) {
+                return false;
+            }
+            int usable = Integer.bitCount(used) < most ? allOf(officers) : used;
+            int number = hardest(done, left, usable);
+            int open = choices[done * MOST_CASES + number] & usable;
             for (int officer = 0; officer < officers; officer++) {
-                if (has(choices, officer) && (alike[officer] & ~used) == 0) {
-                    given[number] = 1 << officer;
-                    if (gives(done + 1, used | 1 << officer, most)) {
+                if (has(open, officer) && !isSpare(officer, left, used)) {
+                    giveTo(done, number, officer);
+                    if (gives(done + 1, left & ~(1 << number), used | 1 << officer, most)) {
                         return true;
                     }
                 }
             }
-            given[number] = 0;
             return false;
         }
 
         /** The case with the fewest choices, on a tie with the most conflicts: what cannot be shows early. */
-        private int hardest(int used, int most) {
+        private int hardest(int done, int left, int usable) {
             int hardest = 0;
             int leastRank = NO_RANK;
             for (int number = 0; number < cases; number++) {
-                int choices = Integer.bitCount(choicesFor(number, used, most));
-                int rank = (choices + 1) * MOST_CASES - Integer.bitCount(conflicts[number]);
-                if (given[number] == 0 && rank < leastRank) {
-                    hardest = number;
-                    leastRank = rank;
+                if (has(left, number)) {
+                    int open = Integer.bitCount(choices[done * MOST_CASES + number] & usable);
+                    int rank = (open + 1) * MOST_CASES - Integer.bitCount(conflicts[number] & left);
+                    if (rank < leastRank) {
+                        hardest = number;
+                        leastRank = rank;
+                    }
                 }
             }
             return hardest;
         }
 
-        private int choicesFor(int number, int used, int most) {
-            int choices = Integer.bitCount(used) < most ? permitted[number] : permitted[number] & used;
-            for (int other = 0; other < cases; other++) {
-                if (has(conflicts[number], other)) {
-                    choices &= ~given[other];
+        /** An unused officer need not be tried if a smaller unused one is permitted the same of the cases left. */
+        private boolean isSpare(int officer, int left, int used) {
+            for (int smaller = 0; smaller < officer && !has(used, officer); smaller++) {
+                int differing = (permittedCases[smaller] ^ permittedCases[officer]) & left;
+                if (!has(used, smaller) && differing == 0) {
+                    return true;
                 }
             }
-            return choices;
+            return false;
+        }
+
+        private void giveTo(int done, int number, int officer) {
+            int row = done * MOST_CASES;
+            for (int other = 0; other < cases; other++) {
+                int lost = has(conflicts[number], other) ? 1 << officer : 0;
+                choices[row + MOST_CASES + other] = choices[row + other] & ~lost;
+            }
         }
     }
 }
