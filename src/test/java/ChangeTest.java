@@ -382,6 +382,23 @@ public final class ChangeTest {
         undoes("addBar", court, () -> court.addBar(0, 0));
         court.undo();
         Check.fails("none is left", NO_STATE, court, court::undo);
+        court.plan(0, 1, 0, 0, 0);
+        court.adjourn(0, 0);
+        court.plan(0, 2, 0, 0, 0);
+        String before = Check.digest(court);
+        court.pass(1);
+        court.adjourn(0, 1);
+        court.undo();
+        court.undo();
+        Check.same("the adjournments of before", Check.digest(court), before);
+        court.undo();
+        court.undo();
+        court.adjourn(0, 2);
+        Check.same("another one", court.adjournment(0, 0, 1), 2);
+        court.undo();
+        court.adjourn(0, 0);
+        court.plan(0, 2, 0, 0, 0);
+        Check.same("the same again", Check.digest(court), before);
     }
 
     private static void promise37UndoEight() {

@@ -194,6 +194,11 @@ public final class ForecastTest {
         Check.same("an empty text", court.count(3), 0);
         CourtCalendar again = moved();
         again.saveState();
+        again.undo();
+        again.undo();
+        again.undo();
+        again.undo();
+        again.adjourn(0, 3);
         for (int changes = 0; changes < 9; changes++) {
             again.undo();
             again.planAll();

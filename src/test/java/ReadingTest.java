@@ -35,6 +35,8 @@ public final class ReadingTest {
     }
 
     private static void promise9IsWorkingDay() {
+        Check.same("day 0", Check.court("").isWorkingDay(0), true);
+        Check.same("holiday 0", Check.court("holiday 0;").isWorkingDay(0), false);
         CourtCalendar court = Check.court("holiday 8;holiday 12;");
         boolean[] due = {true, true, true, true, true, false, false, true, false, true, true, true, false, false, true};
         for (int day = 0; day < due.length; day++) {
@@ -430,6 +432,11 @@ public final class ReadingTest {
         // days 2, 4, 7 to 11, 14 and 15: no weekend, no holiday, in the windows and not after the limit day 17
         Check.same("waiting", court.openDays(1), 9);
         Check.same("planned", court.openDays(0), 10);
+        CourtCalendar barred = Check.court("room r slots 0 7;officer o;case a filed 0 slots 1 limit 4;case b filed 0 slots 1 limit 4;bar o b;");
+        openingIs(barred, 1, -1);
+        Check.same("the bar of another case is none", barred.openDays(0), 5);
+        openingIs(barred, 0, 0, 0, 0, 0);
+        Check.same("its own bar is", barred.openDays(1), 0);
         Check.same("without witnesses", court.openDays(2), 21);
         court.pass(8);
         Check.same("from the present day", court.openDays(1), 6);
@@ -452,6 +459,14 @@ public final class ReadingTest {
         }
         Check.fails("index 6", java.util.NoSuchElementException.class, court, () -> court.urgent(6));
         Check.fails("index -1", java.util.NoSuchElementException.class, court, () -> court.urgent(-1));
+        CourtCalendar near = Check.court("case a filed 0 slots 1 limit 8;case b filed 0 slots 1 limit 7 custody;"
+                + "case c filed 0 slots 1 limit 6;case d filed 0 slots 1 limit 9 custody;case e filed 0 slots 1 limit 7;");
+        int[] nearDue = {2, 1, 4, 0, 3};
+        for (int index = 0; index < nearDue.length; index++) {
+            Check.same("near urgent " + index, near.urgent(index), nearDue[index]);
+        }
+        CourtCalendar before = Check.court("case a filed 0 slots 1 limit 8 custody;case b filed 0 slots 1 limit 7;");
+        Check.same("the limit day comes first", before.urgent(0), 1);
         court.planNext(1);
         Check.same("a planned one is left out", court.urgent(1), 2);
         Check.fails("index 5", java.util.NoSuchElementException.class, court, () -> court.urgent(5));

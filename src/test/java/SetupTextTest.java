@@ -8,12 +8,14 @@ public final class SetupTextTest {
         promise3Truncate();
         promise4Parse();
         promise4ParseStartsAnew();
+        promise4NothingIsLeft();
         promise4ErrorKeepsAll();
         promises5And6Errors();
         wrongTokens();
         wrongRanges();
         wrongNames();
         tooMany();
+        mostOffs();
         promise7Count();
         promise8Find();
         Check.end("SetupTextTest");
@@ -132,6 +134,26 @@ public final class SetupTextTest {
         Check.same("parse", court.parse(), 0);
         Check.same("offs are forgotten", court.isOff(0, 5), false);
         Check.same("rooms are forgotten", court.count(0), 0);
+    }
+
+    private static void promise4NothingIsLeft() {
+        String full = "holiday 0;holiday 9;lengthen 0 1;lengthen 1 2;lengthen 2 3;lengthen 3 4;cap 5;room r slots 1 2;"
+                + "officer o off 1 2 off 3 4 off 5 6;witness w days 1 2 slots 3 4;"
+                + "case a filed 2 slots 3 limit 4 custody needs w;case b filed 5 slots 1 limit 6;bar o a;conflict a b;";
+        String plain = "room r slots 0 7;officer o;witness w days 0 9;case a filed 0 slots 1 limit 1;case b filed 0 slots 1 limit 1;";
+        String due = Check.digest(Check.court(plain));
+        CourtCalendar court = new CourtCalendar();
+        for (int times = 0; times < 4; times++) {
+            Check.type(court, full);
+            Check.same("parse", court.parse(), 2);
+            Check.type(court, full + "cap");
+            Check.same("parse", court.parse(), -1);
+            Check.type(court, plain);
+            Check.same("parse", court.parse(), 2);
+            Check.same("nothing is left", Check.digest(court), due);
+            Check.same("parse", court.parse(), 0);
+            Check.same("nothing is left", Check.digest(court), Check.digest(new CourtCalendar()));
+        }
     }
 
     private static void promise4ErrorKeepsAll() {
@@ -256,17 +278,29 @@ public final class SetupTextTest {
         Check.same("most cases", Check.court(many("case # filed 0 slots 1 limit 1;", 12)).count(3), 12);
     }
 
+    private static void mostOffs() {
+        CourtCalendar court = Check.court(many("officer # off %0 %1 off %3 %4 off %6 %7;", 6));
+        for (int officer = 0; officer < 6; officer++) {
+            boolean[] due = {true, true, false, true, true, false, true, true, false, false};
+            for (int i = 0; i < 10; i++) {
+                Check.same("isOff", court.isOff(officer, officer * 10 + i), due[i]);
+            }
+            Check.same("isOff", court.isOff(officer, officer < 5 ? 50 : 40), false);
+        }
+    }
+
     private static void promise7Count() {
         CourtCalendar court = Check.court("room r slots 0 7;room s slots 0 7;officer o;officer p;officer q;"
                 + "witness w days 0 9;case a filed 0 slots 1 limit 1;case b filed 0 slots 1 limit 9;"
-                + "case c filed 0 slots 1 limit 9;case d filed 0 slots 1 limit 9;conflict a b;conflict c b;"
+                + "case c filed 0 slots 1 limit 9;case d filed 0 slots 1 limit 9;case e filed 0 slots 1 limit 9;conflict a b;conflict c b;"
                 + "bar o a;bar p a;bar o b;holiday 8;holiday 6;cap 33;");
         court.plan(1, 0, 0, 0, 1);
         court.plan(2, 7, 0, 0, 2);
+        court.plan(3, 2, 0, 0, 2);
         court.pass(3);
         court.addBar(2, 3);
         court.addHoliday(9);
-        int[] counts = {2, 3, 1, 4, 3, 4, 2, 3, 33, 5, 1, 1, 1, 1};
+        int[] counts = {2, 3, 1, 5, 3, 4, 2, 3, 33, 6, 1, 1, 2, 1};
         for (int what = 0; what < counts.length; what++) {
             Check.same("count " + what, court.count(what), counts[what]);
         }
