@@ -8,6 +8,15 @@ final class Check {
         Object run();
     }
 
+    /** Makes the same calendar each time. */
+    interface Maker {
+        CourtCalendar make();
+    }
+
+    interface Asking {
+        Object ask(CourtCalendar court, int argument);
+    }
+
     private Check() {
     }
 
@@ -23,6 +32,39 @@ final class Check {
         String before = digest(court);
         same(what, outcome(call), due.getSimpleName());
         same(what + " changed something:", digest(court), before);
+    }
+
+    /** The call must throw just this exception and change nothing, not even what only undo, restoreState or parse shows. */
+    static void refused(String what, Class<?> due, Maker maker, Asking call, int argument) {
+        CourtCalendar court = maker.make();
+        same(what + " of " + argument, outcome(() -> call.ask(court, argument)), due.getSimpleName());
+        same(what + " of " + argument + " changed something:", drained(court), drained(maker.make()));
+    }
+
+    static void refused(String what, Class<?> due, Maker maker, Asking call) {
+        refused(what, due, maker, call, 0);
+    }
+
+    /** The arguments from least to most are taken, the ones beside them refused; there are none if most is below least. */
+    static void edges(String what, Class<?> due, Maker maker, int least, int most, Asking call) {
+        for (int argument : least > most ? new int[0] : new int[] {least, most}) {
+            CourtCalendar court = maker.make();
+            Object answer = outcome(() -> call.ask(court, argument));
+            same(what + " of " + argument + " threw " + answer, answer instanceof String, false);
+        }
+        for (int argument : new int[] {least - 1, most + 1, Integer.MIN_VALUE, Integer.MAX_VALUE}) {
+            refused(what, due, maker, call, argument);
+        }
+    }
+
+    /** Gives a calendar an output, a saved state, an error and a text in its buffer, so that a loss of them shows. */
+    static CourtCalendar laden(CourtCalendar court) {
+        court.printDay(0);
+        court.saveState();
+        type(court, "cap 99;");
+        court.parse();
+        type(court, "cap 3;room left slots 0 7;");
+        return court;
     }
 
     /** The answer of a call, or the name of what it threw. */
@@ -50,6 +92,15 @@ final class Check {
         return court;
     }
 
+    /** The statement so many times, # replaced by another letter and % by another number each time. */
+    static String many(String statement, int times) {
+        StringBuilder all = new StringBuilder();
+        for (int i = 0; i < times; i++) {
+            all.append(statement.replace('#', (char) ('a' + i)).replace("%", String.valueOf(i)));
+        }
+        return all.toString();
+    }
+
     /** Puts the text behind what the buffer holds. */
     static void type(CourtCalendar court, String text) {
         int length = 0;
@@ -75,6 +126,26 @@ final class Check {
             all.append((char) court.outputByte(i));
         }
         return all.toString();
+    }
+
+    /** All that is held in a calendar, which is of no use afterwards: what is read, the buffer, the changes and the saved state. */
+    static String drained(CourtCalendar court) {
+        StringBuilder all = new StringBuilder(digest(court));
+        all.append("\nbuffer ").append(bufferLength(court));
+        for (int changes = court.count(9); changes > 0; changes--) {
+            all.append("\nundo ").append(outcome(court::undo)).append('\n').append(digest(court));
+        }
+        all.append("\nrestore ").append(outcome(court::restoreState)).append('\n').append(digest(court));
+        all.append("\nparse ").append(court.parse()).append('\n').append(digest(court));
+        return all.toString();
+    }
+
+    static int bufferLength(CourtCalendar court) {
+        int length = 900;
+        while (length >= 0 && !court.truncate(length)) {
+            length--;
+        }
+        return length;
     }
 
     /** Everything that the reading methods tell, as one text. (Our object bears more calls than the promised 512.) */

@@ -56,7 +56,28 @@ public final class RandomRunsTest {
         return (char) ('a' + i);
     }
 
+    /** As many of each kind as there may be, and what else 900 bytes hold. */
+    private static String fullText() {
+        StringBuilder all = new StringBuilder(Check.many("room # slots 0 7;", 2) + "room z slots " + span(0, 7) + ";" + Check.many("officer #;", 6));
+        for (int i = 0; i < 12; i++) {
+            all.append("witness ").append(letter(i)).append(" days 0 ").append(between(5, 60)).append(';');
+        }
+        for (int i = 0; i < 12; i++) {
+            all.append("case ").append(letter(i)).append(" filed ").append(below(4)).append(" slots ").append(between(1, 4));
+            all.append(" limit ").append(between(1, 9)).append(below(4) == 0 ? " custody" : "");
+            all.append(below(3) == 0 ? " needs " + letter(between(8, 11)) : "").append(';');
+        }
+        for (int i = 1; i < 12; i++) {
+            int other = below(i);
+            all.append(below(2) == 0 ? "conflict " + letter(i) + " " + letter(other) : "bar " + letter(other / 2) + " " + letter(i)).append(';');
+        }
+        return all.toString();
+    }
+
     private static String text() {
+        if (below(6) == 0) {
+            return fullText();
+        }
         StringBuilder all = new StringBuilder();
         int rooms = below(12) == 0 ? 0 : between(1, 3);
         int officers = below(12) == 0 ? 0 : between(1, below(2) == 0 ? 3 : 6);
@@ -245,7 +266,12 @@ public final class RandomRunsTest {
             case 4, 5 -> same("opening " + number + " " + what, () -> court.opening(number, what),
                 () -> reference.opening(number, what), run);
             case 6 -> same("openDays " + number, () -> court.openDays(number), () -> reference.openDays(number), run);
-            case 7 -> same("fewestOfficers", () -> court.fewestOfficers(), () -> reference.fewestOfficers(), run);
+            case 7 -> {
+                // The reference tries all ways, which are too many for more cases.
+                if (reference.count(3) <= 7) {
+                    same("fewestOfficers", () -> court.fewestOfficers(), () -> reference.fewestOfficers(), run);
+                }
+            }
             case 8 -> same("lapsesIn " + days, () -> court.lapsesIn(days), () -> reference.lapsesIn(days), run);
             case 9 -> same("plannable", () -> court.plannable(), () -> reference.plannable(), run);
             case 10 -> same("keyOfficer", () -> court.keyOfficer(), () -> reference.keyOfficer(), run);
@@ -255,7 +281,7 @@ public final class RandomRunsTest {
 
     /** A hearing on the day of another one, where the problems with rooms, officers and witnesses are. */
     private static void problemBeside(int run, int number, int officer) {
-        int other = below(7);
+        int other = below(12);
         if (other >= reference.count(3) || reference.hearing(other, 0) < 0) {
             return;
         }

@@ -249,37 +249,29 @@ public final class SetupTextTest {
                 + "lengthen 0 1;lengthen 1 1;lengthen 2 1;lengthen 3 1;conflict c d;room zzzzzzzz slots 0 0;");
     }
 
-    private static String many(String statement, int times) {
-        StringBuilder all = new StringBuilder();
-        for (int i = 0; i < times; i++) {
-            all.append(statement.replace('#', (char) ('a' + i)).replace("%", String.valueOf(i)));
-        }
-        return all.toString();
-    }
-
     private static void tooMany() {
-        String[] texts = {many("holiday %;", 20) + "^holiday", many("holiday %;", 20) + "^holiday 600",
-            many("room # slots 0 0;", 3) + "^room", many("officer #;", 6) + "^officer a;",
-            many("witness # days 0 0;", 12) + "^witness 3", many("case # filed 0 slots 1 limit 1;", 12) + "^case a",
+        String[] texts = {Check.many("holiday %;", 20) + "^holiday", Check.many("holiday %;", 20) + "^holiday 600",
+            Check.many("room # slots 0 0;", 3) + "^room", Check.many("officer #;", 6) + "^officer a;",
+            Check.many("witness # days 0 0;", 12) + "^witness 3", Check.many("case # filed 0 slots 1 limit 1;", 12) + "^case a",
             "officer o off 0 0 off 0 0 off 0 0 ^off 0 0;",
-            many("witness # days 0 0;", 5) + "case c filed 0 slots 1 limit 1" + many(" needs #", 4) + " ^needs e;",
-            many("witness # days 0 0;", 5) + "case c filed 0 slots 1 limit 1 custody" + many(" needs #", 4) + "\n^needs a"};
+            Check.many("witness # days 0 0;", 5) + "case c filed 0 slots 1 limit 1" + Check.many(" needs #", 4) + " ^needs e;",
+            Check.many("witness # days 0 0;", 5) + "case c filed 0 slots 1 limit 1 custody" + Check.many(" needs #", 4) + "\n^needs a"};
         for (String text : texts) {
             fault(4, text);
         }
-        CourtCalendar court = Check.court(many("holiday %;", 20) + many("room # slots 0 0;", 3) + many("officer #;", 6)
-                + many("witness # days 0 0;", 12) + many("case # filed 0 slots 1 limit 1;", 4)
-                + "case x filed 0 slots 1 limit 1 custody" + many(" needs #", 4) + ";");
+        CourtCalendar court = Check.court(Check.many("holiday %;", 20) + Check.many("room # slots 0 0;", 3) + Check.many("officer #;", 6)
+                + Check.many("witness # days 0 0;", 12) + Check.many("case # filed 0 slots 1 limit 1;", 4)
+                + "case x filed 0 slots 1 limit 1 custody" + Check.many(" needs #", 4) + ";");
         Check.same("most holidays", court.count(4), 20);
         Check.same("most rooms", court.count(0), 3);
         Check.same("most officers", court.count(1), 6);
         Check.same("most witnesses", court.count(2), 12);
         Check.same("most needs", court.matter(4, 8), 4);
-        Check.same("most cases", Check.court(many("case # filed 0 slots 1 limit 1;", 12)).count(3), 12);
+        Check.same("most cases", Check.court(Check.many("case # filed 0 slots 1 limit 1;", 12)).count(3), 12);
     }
 
     private static void mostOffs() {
-        CourtCalendar court = Check.court(many("officer # off %0 %1 off %3 %4 off %6 %7;", 6));
+        CourtCalendar court = Check.court(Check.many("officer # off %0 %1 off %3 %4 off %6 %7;", 6));
         for (int officer = 0; officer < 6; officer++) {
             boolean[] due = {true, true, false, true, true, false, true, true, false, false};
             for (int i = 0; i < 10; i++) {
