@@ -1702,7 +1702,7 @@ public final class CourtCalendar {
         int countFewest(State state) {
             prepare(state);
             for (int most = 0; most <= officers; most++) {
-                if (gives(0, allOf(cases), 0, most)) {
+                if (gives(this, 0, allOf(cases), 0, most)) {
                     return most;
                 }
             }
@@ -1723,20 +1723,20 @@ public final class CourtCalendar {
         }
 
         /** Tells whether the cases left can be given to officers, of whom at most so many are used in all. */
-        private boolean gives(int done, int left, int used, int most) {
+        private static boolean gives(Bench bench, int done, int left, int used, int most) {
             if (left == 0) {
                 return true;
             }
             if (done >= MOST_CASES) {
                 return false;
             }
-            int usable = Integer.bitCount(used) < most ? allOf(officers) : used;
-            int number = hardest(done, left, usable);
-            int open = choices[done * MOST_CASES + number] & usable;
-            for (int officer = 0; officer < officers; officer++) {
-                if (has(open, officer) && !isSpare(officer, left, used)) {
-                    giveTo(done, number, officer);
-                    if (gives(done + 1, left & ~(1 << number), used | 1 << officer, most)) {
+            int usable = Integer.bitCount(used) < most ? allOf(bench.officers) : used;
+            int number = bench.hardest(done, left, usable);
+            int open = bench.choices[done * MOST_CASES + number] & usable;
+            for (int officer = 0; officer < bench.officers; officer++) {
+                if (has(open, officer) && !bench.isSpare(officer, left, used)) {
+                    bench.giveTo(done, number, officer);
+                    if (gives(bench, done + 1, left & ~(1 << number), used | 1 << officer, most)) {
                         return true;
                     }
                 }
